@@ -128,6 +128,8 @@ public final class PromiseTest {
         GriefWood w = wood(5, 0, 0);
         DUE.yes("loss", w.set(0, 0, 99));
         is("loss", w.who(0, 0), 99);
+        DUE.yes("no loss", w.set(0, 0, 0));
+        is("no loss", w.who(0, 0), 0);
         DUE.no("loss 100", w.set(0, 0, 100));
         DUE.no("loss -1", w.set(0, 0, -1));
         DUE.yes("solace", w.set(1, 0, 9));
@@ -194,6 +196,11 @@ public final class PromiseTest {
         w.state(0);
         DUE.yes("lead", w.act(0, 0));
         is("563 is below 564", w.who(0, 5), 2);
+        told(w, 0, "stops 1;", 1);
+        w.state(0);
+        DUE.yes("lead", w.act(0, 0));
+        is("1 is above 0: a draw", w.look(7), 1013904223);
+        is("but no stop", w.who(0, 5), 2);
         GriefWood corner = wood(0, 7, 0);
         told(corner, 0, "draws 0-10*y-x;", 1);
         corner.act(0, 0);
@@ -493,6 +500,9 @@ public final class PromiseTest {
         is("same", holds(w, "1=1") + holds(w, "1=2") * 2 + holds(w, "2=1") * 4, 1);
         is("more", holds(w, "1>1") + holds(w, "1>2") * 2 + holds(w, "2>1") * 4, 4);
         is("sums on both sides", holds(w, "1+2*3=14/2 and 9-8<2-0"), 1);
+        String deep = "1=2 or 1=1 and (".repeat(8);
+        is("as deep as can be", holds(w, deep + "1=2 or 1=1 and 1+2*3=7" + ")".repeat(8)), 1);
+        is("as deep as can be", holds(w, deep + "1=2 or 1=1 and 1+2*3=8" + ")".repeat(8)), 0);
         Due.tell(w, 0, "pays 1 when 1=2; pays 2 when 2=2; pays 3;");
         is("the first that is so", w.of(0, 0, 30), 2);
         Due.tell(w, 0, "stops 5; pays 3 when 1=2;");
@@ -738,6 +748,9 @@ public final class PromiseTest {
         w.seeker(1, 2, 7);
         is("three", w.meeting(0), 9);
         is("the middle", w.meeting(1), 50);
+        GriefWood corners = wood(1, 0, 0, 1, 0, 0, 1, 7, 7);
+        is("the first cell", corners.meeting(1), 0);
+        is("the first cell", corners.meeting(0), 14);
         is("another what", w.meeting(-1), -1);
     }
 
@@ -751,6 +764,8 @@ public final class PromiseTest {
         is("sides, the wood's end, too", w.stands(2), 16);
         told(w, 2, "cell 7 3 oak; cell 0 4 oak;", 2);
         is("not round the edge", w.stands(0), 5);
+        told(w, 2, "cell 5 7 oak; cell 5 6 oak; cell 6 6 oak; cell 4 6 oak;", 4);
+        is("to all four sides", w.stands(1), 4);
         is("another what", w.stands(3), -1);
         is("another what", w.stands(-1), -1);
         GriefWood all = wood();
@@ -917,6 +932,7 @@ public final class PromiseTest {
         is("alike: no rain", w.hollow(0), 0);
         is("alike: one from the left", w.hollow(2), 1);
         is("alike: a couple", w.hollow(4), 1);
+        is("99", w.height(99), 3);
     }
 
     private static void three() {
@@ -978,6 +994,8 @@ public final class PromiseTest {
         is("the last of 20 by 20", w.round(20, 20, 399), 1009);
         is("the last of 2 by 5", w.round(2, 5, 9), 100);
         is("one", w.round(1, 1, 0), 0);
+        is("one", w.rounds(1, 1, 0, 0), 0);
+        is("the last of 20 by 20", w.rounds(20, 20, 9, 10), 399);
         for (int[] s : new int[][] {{0, 1, 0}, {21, 1, 0}, {1, 0, 0}, {1, 21, 0}, {2, 2, 4}, {2, 2, -1}}) {
             is("wrong", w.round(s[0], s[1], s[2]), -1);
         }
