@@ -1217,7 +1217,7 @@ public final class GriefWood {
         }
     }
 
-    /** Up to 16 lines of MORNINGS, WOOD or TABLES: n, m are the NUMBERS behind the last keyword but WOOD's weight. */
+    /** Up to 16 lines of MORNINGS (n, m: its NUMBERS), WOOD (n, m: X, Y) or TABLES (n, m: weight, COINS). */
     private static final class Lines {
         static final String WORDS = "on seeker lead console mourn stand cell oak bare truffle table pays";
         static final int ON = Tokens.WORD;
