@@ -901,7 +901,7 @@ public final class GriefWood {
                 if (tape[i] != ' ' && tape[i] != '\n') {
                     int behind = behindToken(tape, i, length);
                     put(tokenOf(tape, i, behind, words), i);
-                    i = behind - 1;
+                    i = Math.max(i, behind - 1);
                 }
             }
             put(END, length);
