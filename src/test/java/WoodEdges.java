@@ -1051,7 +1051,7 @@ final class WoodEdges {
         e.is("an empty one", wood().book(0, 0), -2);
         w.undo();
         e.is("gone back", w.book(0, 0), -2);
-        // Of the three lines that stand in it, none is asked here.
+        // It has four lines there.
         e.leaves(-2, "book", 4, 0);
         e.leaves(-2, "book", -1, 3);
         e.says(13, "or another what.");
