@@ -129,5 +129,17 @@ public final class FaceTest {
                 DUE.is("a sign of the file", c, 32);
             }
         }
+        methodsAreShort(text);
+    }
+
+    /** A method of the class begins four or eight blanks in, and ends with the next brace that stands as far in. */
+    private static void methodsAreShort(String text) {
+        Matcher method = Pattern.compile("(?m)^( {4}| {8})(\\w[^\n;]*\\)) \\{\n((?:\\1 .*\n|\n)*)\\1\\}$").matcher(text);
+        int methods = 0;
+        while (method.find()) {
+            methods++;
+            DUE.yes(method.group(2) + " is short", method.group(3).split("\n").length <= 60);
+        }
+        DUE.yes("methods: " + methods, methods > 42);
     }
 }
